@@ -681,8 +681,9 @@ public final class CutLetters {
 
         private void offerWays(int spot, int piece, int cost) {
             int behind = spotBehind(piece);
+            int ways = counts[behind];
             boolean taken = true;
-            for (int rank = 0; rank < counts[behind] && taken; rank++) {
+            for (int rank = 0; rank < ways && taken; rank++) {
                 taken = offer(spot, cost + costs[behind * MOST_CUTTINGS + rank], piece, rank);
             }
         }
@@ -773,7 +774,8 @@ public final class CutLetters {
                 int least = leastWith(piece);
                 if (least != NONE && least <= most) {
                     int place = net.places[piece];
-                    int inside = (1 << place + net.lengths[piece]) - (1 << place + 1);
+                    int end = place + net.lengths[piece];
+                    int inside = (1 << end) - (1 << (place + 1));
                     bits &= ~inside;
                 }
             }
