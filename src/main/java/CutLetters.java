@@ -624,24 +624,27 @@ public final class CutLetters {
 
     /**
      * The least ways through the net. A spot is a place and the kind of the piece that ends there:
-     * what may follow, and at what cost, hangs on these two alone.
+     * what may follow, and at what cost, hangs on these two alone. A way on from a spot is one
+     * number: its cost, its first piece, and which of the ways at the spot behind that it goes on
+     * with; so the order of these numbers is the order of the ways.
      */
     static final class Ranking {
         private static final int SPOTS = (MOST_LETTERS + 1) * JOIN_SIDES;
         private static final int START = EDGE;
         /** Far above each cost that can be. */
         private static final int NEVER = 1000000;
+        /** Room for twelve ranks; then for 480 pieces; no cost is above 7,227, so an int holds all. */
+        private static final int RANK_ROOM = 16;
+        private static final int PIECE_ROOM = 512;
+        private static final int COST_UNIT = PIECE_ROOM * RANK_ROOM;
 
         private final Book book;
         private final Net net;
-        /** How many ways from a spot to the line's end are kept. */
-        private final int[] counts = new int[SPOTS];
-        /** Of each way kept: its cost, its first piece, and which way it is at the spot behind that. */
-        private final int[] costs = new int[SPOTS * MOST_CUTTINGS];
-        private final int[] pieces = new int[SPOTS * MOST_CUTTINGS];
-        private final int[] ranks = new int[SPOTS * MOST_CUTTINGS];
         /** The least cost of what stands before a spot. */
         private final int[] before = new int[SPOTS];
+        /** How many ways from a spot to the line's end are kept. */
+        private final int[] counts = new int[SPOTS];
+        private final int[] kept = new int[SPOTS * MOST_CUTTINGS];
         /** The pieces of the cutting that was followed last. */
         final int[] followed = new int[MOST_LETTERS];
 
@@ -651,6 +654,7 @@ public final class CutLetters {
         }
 
         void make() {
+            reachSpots();
             rankEnds();
             for (int place = book.lineLength - 1; place > 0; place--) {
                 for (int kind = 0; kind < KINDS; kind++) {
@@ -658,21 +662,22 @@ public final class CutLetters {
                 }
             }
             rankSpot(0, EDGE);
-            reachSpots();
         }
 
         private void rankEnds() {
             for (int kind = 0; kind < KINDS; kind++) {
                 int spot = book.lineLength * JOIN_SIDES + kind;
                 counts[spot] = 1;
-                put(spot * MOST_CUTTINGS, book.joins[kind * JOIN_SIDES + EDGE], NONE, 0);
+                kept[spot * MOST_CUTTINGS] = book.joins[kind * JOIN_SIDES + EDGE] * COST_UNIT;
             }
         }
 
-        /** Ways are offered by rising first piece and then rising rank, so of equals the first stays ahead. */
         private void rankSpot(int place, int kind) {
             int spot = place * JOIN_SIDES + kind;
             counts[spot] = 0;
+            if (before[spot] >= NEVER) {
+                return;
+            }
             for (int piece = net.firsts[place]; piece < net.firsts[place + 1]; piece++) {
                 int cost = book.joins[kind * JOIN_SIDES + net.kinds[piece]] + net.costs[piece];
                 offerWays(spot, piece, cost);
@@ -684,32 +689,27 @@ public final class CutLetters {
             int ways = counts[behind];
             boolean taken = true;
             for (int rank = 0; rank < ways && taken; rank++) {
-                taken = offer(spot, cost + costs[behind * MOST_CUTTINGS + rank], piece, rank);
+                int whole = cost + kept[behind * MOST_CUTTINGS + rank] / COST_UNIT;
+                taken = offer(spot, whole * COST_UNIT + piece * RANK_ROOM + rank);
             }
         }
 
-        private boolean offer(int spot, int cost, int piece, int rank) {
+        private boolean offer(int spot, int way) {
             int first = spot * MOST_CUTTINGS;
             int at = first + counts[spot];
             if (counts[spot] < MOST_CUTTINGS) {
                 counts[spot]++;
             } else {
                 at--;
-                if (costs[at] <= cost) {
+                if (kept[at] < way) {
                     return false;
                 }
             }
-            for (; at > first && costs[at - 1] > cost; at--) {
-                put(at, costs[at - 1], pieces[at - 1], ranks[at - 1]);
+            for (; at > first && kept[at - 1] > way; at--) {
+                kept[at] = kept[at - 1];
             }
-            put(at, cost, piece, rank);
+            kept[at] = way;
             return true;
-        }
-
-        private void put(int at, int cost, int piece, int rank) {
-            costs[at] = cost;
-            pieces[at] = piece;
-            ranks[at] = rank;
         }
 
         private int spotBehind(int piece) {
@@ -742,7 +742,10 @@ public final class CutLetters {
         int leastWith(int piece) {
             int ahead = leastUpTo(piece);
             int behind = spotBehind(piece);
-            return ahead >= NEVER || counts[behind] == 0 ? NONE : ahead + costs[behind * MOST_CUTTINGS];
+            if (ahead >= NEVER || counts[behind] == 0) {
+                return NONE;
+            }
+            return ahead + kept[behind * MOST_CUTTINGS] / COST_UNIT;
         }
 
         int cuttings() {
@@ -750,18 +753,22 @@ public final class CutLetters {
         }
 
         int costOf(int cutting) {
-            return costs[START * MOST_CUTTINGS + cutting];
+            return kept[START * MOST_CUTTINGS + cutting] / COST_UNIT;
         }
 
         /** Lays the pieces of a cutting into its row: how many. */
         int follow(int cutting) {
+            int end = book.lineLength * JOIN_SIDES;
             int count = 0;
-            int at = START * MOST_CUTTINGS + cutting;
-            while (count < MOST_LETTERS && pieces[at] != NONE) {
-                int piece = pieces[at];
+            int spot = START;
+            int rank = cutting;
+            while (count < MOST_LETTERS && spot < end) {
+                int way = kept[spot * MOST_CUTTINGS + rank];
+                int piece = way / RANK_ROOM % PIECE_ROOM;
                 followed[count] = piece;
                 count++;
-                at = spotBehind(piece) * MOST_CUTTINGS + ranks[at];
+                spot = spotBehind(piece);
+                rank = way % RANK_ROOM;
             }
             return count;
         }

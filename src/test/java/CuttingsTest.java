@@ -21,6 +21,7 @@ public final class CuttingsTest {
         joinsAtEdges();
         cuttingRefused();
         twelveOfMany();
+        twelveOfEquals();
         sure();
         sign();
         longestWritten();
@@ -146,6 +147,8 @@ public final class CuttingsTest {
         same("no cutting has those without a way on", t.leasts(), "54 15 -6 -6 -6 15");
         t = new Told().words("ab=n1", "b=n1").line("abb");
         same("no cutting has those without a way to them", t.leasts(), "2 -6 2");
+        t.learn("b=n0");
+        same("not even if they cost nothing", t.leasts(), "1 -6 1");
     }
 
     private static void changesAreSeen() {
@@ -262,6 +265,19 @@ public final class CuttingsTest {
         same("least", t.cutting(0), "14: 5 17");
         same("of equals", t.cutting(9) + ", " + t.cutting(10) + ", " + t.cutting(11),
                 "21: 2 8 17, 21: 2 11 20, 21: 5 14 20");
+    }
+
+    /** All sixteen cost the same: they come in order, and the last four do not push out a kept one. */
+    private static void twelveOfEquals() {
+        Told t = new Told().words("a=n1", "a=v1").line("aaaa");
+        for (int i = 0; i < 12; i++) {
+            StringBuilder due = new StringBuilder("4:");
+            for (int place = 0; place < 4; place++) {
+                due.append(' ').append(2 * place + (i >> (3 - place) & 1));
+            }
+            same("cutting " + i, t.cutting(i), due.toString());
+        }
+        DUE.is("ways", t.x.ways(), 16);
     }
 
     private static void sure() {

@@ -7,6 +7,7 @@ public final class ImagesTest {
         refused();
         allIsKept();
         twoImages();
+        fullImage();
         emptyImage();
         told();
         DUE.end();
@@ -84,6 +85,27 @@ public final class ImagesTest {
         t.x.forget(0);
         t.x.restore(0);
         DUE.is("an image kept anew", t.x.told(1), 2);
+    }
+
+    private static void fullImage() {
+        Told t = new Told();
+        String most = "abcdefghabcdefghabcdefgh";
+        for (int i = 0; i < 16; i++) {
+            t.learn(most.substring(i, i + 6) + "=" + "nvm".charAt(i % 3) + (i + 10));
+        }
+        t.line(most);
+        String kept = state(t);
+        t.x.image(1);
+        for (int i = 0; i < 16; i++) {
+            t.x.forget(0);
+        }
+        for (int i = 0; i < 16; i++) {
+            t.learn("aaaaaa".substring(i / 3) + "=" + "nvm".charAt(i % 3) + "99");
+        }
+        t.line("hhhhhhhhhhhhhhhhhhhhhhhh");
+        t.x.restore(1);
+        DUE.is("sixteen words", t.x.told(1), 16);
+        DUE.holds("all of them, and the longest line", state(t).equals(kept));
     }
 
     private static void emptyImage() {
