@@ -1,6 +1,6 @@
 /** An object of the class with whole texts told and read, so that a test can be read, too. */
 final class Told {
-    final CutLetters x = new CutLetters();
+    final Counted x = new Counted();
 
     /** The pad holds just this. */
     Told pad(String text) {
@@ -35,31 +35,75 @@ final class Told {
         return this;
     }
 
+    /** The four rules at once. */
+    Told rules(int when, int base, int each, int shorts) {
+        x.rule(0, when);
+        x.rule(1, base);
+        x.rule(2, each);
+        x.rule(3, shorts);
+        return this;
+    }
+
     /** What the class tells of a word, written as it would be told. */
     String word(int number) {
         StringBuilder text = new StringBuilder();
-        for (int i = 0; i < x.word(number, 0); i++) {
+        int letters = x.word(number, 0);
+        for (int i = 0; i < letters; i++) {
             text.append((char) x.word(number, 3 + i));
         }
         return text.append('=').append("nvm".charAt(x.word(number, 1))).append(x.word(number, 2)).toString();
     }
 
+    /** All words, in their order. */
+    String words() {
+        StringBuilder text = new StringBuilder();
+        int count = x.told(1);
+        for (int i = 0; i < count; i++) {
+            text.append(i == 0 ? "" : " ").append(word(i));
+        }
+        return text.toString();
+    }
+
+    /** The line, as told letter by letter. */
+    String line() {
+        StringBuilder text = new StringBuilder();
+        int letters = x.told(2);
+        for (int place = 0; place < letters; place++) {
+            text.append((char) x.told(100 + place));
+        }
+        return text.toString();
+    }
+
     /** All pieces: place, letters, kind, cost, word. */
     String pieces() {
+        return pieces(0, 1, 2, 3, 4);
+    }
+
+    String leasts() {
+        return pieces(5);
+    }
+
+    private String pieces(int... whats) {
         StringBuilder text = new StringBuilder();
-        for (int i = 0; i < x.pieces(); i++) {
-            text.append(i == 0 ? "" : " ");
-            for (int what = 0; what < 5; what++) {
-                text.append(what == 0 ? "" : ",").append(x.piece(i, what));
+        int count = x.pieces();
+        for (int i = 0; i < count; i++) {
+            String gap = i == 0 ? "" : " ";
+            for (int what : whats) {
+                text.append(gap).append(x.piece(i, what));
+                gap = ",";
             }
         }
         return text.toString();
     }
 
-    String leasts() {
+    /** How many letters the wild pieces at a place have, in order. */
+    String wildAt(int place) {
         StringBuilder text = new StringBuilder();
-        for (int i = 0; i < x.pieces(); i++) {
-            text.append(i == 0 ? "" : " ").append(x.piece(i, 5));
+        int count = x.pieces();
+        for (int i = 0; i < count; i++) {
+            if (x.piece(i, 0) == place && x.piece(i, 2) == 3) {
+                text.append(text.length() == 0 ? "" : " ").append(x.piece(i, 1));
+            }
         }
         return text.toString();
     }
@@ -67,7 +111,8 @@ final class Told {
     /** A cutting: its cost, then its pieces. */
     String cutting(int i) {
         StringBuilder text = new StringBuilder().append(x.cutting(i, -1)).append(':');
-        for (int j = 0; j < x.cutting(i, -2); j++) {
+        int pieces = x.cutting(i, -2);
+        for (int j = 0; j < pieces; j++) {
             text.append(' ').append(x.cutting(i, j));
         }
         return text.toString();
@@ -75,7 +120,8 @@ final class Told {
 
     String written(int i) {
         StringBuilder text = new StringBuilder();
-        for (int j = 0; j < x.sign(i, -1); j++) {
+        int signs = x.sign(i, -1);
+        for (int j = 0; j < signs; j++) {
             text.append((char) x.sign(i, j));
         }
         return text.toString();
