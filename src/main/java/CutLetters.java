@@ -57,7 +57,7 @@ public final class CutLetters {
         book = new Book();
         images = new Book[IMAGES];
         net = new Net();
-        ranking = new Ranking(book, net);
+        ranking = new Ranking();
         writing = new Writing();
     }
 
@@ -172,7 +172,7 @@ public final class CutLetters {
             case 4: return net.words[i];
             case 5:
                 makeRanking();
-                return ranking.leastWith(i);
+                return ranking.leastWith(net, i);
             default: return OUTSIDE;
         }
     }
@@ -182,7 +182,7 @@ public final class CutLetters {
             return NO;
         }
         makeNet();
-        return net.countWays(book.lineLength);
+        return net.countWays();
     }
 
     public int cutting(int i, int j) {
@@ -202,7 +202,7 @@ public final class CutLetters {
         if (j == -1) {
             return ranking.costOf(i);
         }
-        int count = ranking.follow(i);
+        int count = ranking.follow(net, i);
         if (j == -2) {
             return count;
         }
@@ -217,7 +217,7 @@ public final class CutLetters {
             return NO;
         }
         makeRanking();
-        return ranking.cuttings() == 0 ? NONE : ranking.surePlaces(d);
+        return ranking.cuttings() == 0 ? NONE : ranking.surePlaces(net, d);
     }
 
     // ---- 3 written
@@ -311,7 +311,7 @@ public final class CutLetters {
     private void makeRanking() {
         makeNet();
         if (!rankingStands) {
-            ranking.make();
+            ranking.make(net);
             rankingStands = true;
         }
     }
@@ -529,10 +529,11 @@ public final class CutLetters {
         }
     }
 
-    /** All pieces of the line, in their order. */
+    /** All pieces of the line, in their order, and what it costs when they meet. */
     static final class Net {
         private static final int NOTHING = -1;
 
+        int lineLength;
         int count;
         final int[] places = new int[MOST_PIECES];
         final int[] lengths = new int[MOST_PIECES];
@@ -542,18 +543,21 @@ public final class CutLetters {
         final int[] words = new int[MOST_PIECES];
         /** The first piece at each place; at the line's end, how many there are. */
         final int[] firsts = new int[MOST_LETTERS + 1];
+        private final int[] joins = new int[JOIN_SIDES * JOIN_SIDES];
         /** What begins at one place, by length and then by kind, as no two pieces there share both. */
         private final int[] slots = new int[(LONGEST + 1) * KINDS];
         private final int[] routes = new int[MOST_LETTERS + 1];
 
         void make(Book book) {
+            lineLength = book.lineLength;
+            System.arraycopy(book.joins, 0, joins, 0, JOIN_SIDES * JOIN_SIDES);
             count = 0;
-            for (int place = 0; place < book.lineLength; place++) {
+            for (int place = 0; place < lineLength; place++) {
                 firsts[place] = count;
                 fillSlots(book, place);
                 addSlots(book, place);
             }
-            firsts[book.lineLength] = count;
+            firsts[lineLength] = count;
         }
 
         private void fillSlots(Book book, int place) {
@@ -608,8 +612,17 @@ public final class CutLetters {
             count++;
         }
 
+        /** What a piece costs behind one of a kind, or behind the line's edge. */
+        int joinBefore(int kind, int piece) {
+            return joins[kind * JOIN_SIDES + kinds[piece]];
+        }
+
+        int joinAtEnd(int kind) {
+            return joins[kind * JOIN_SIDES + EDGE];
+        }
+
         /** From the last piece back, all that begin where a piece ends are counted before it. */
-        int countWays(int lineLength) {
+        int countWays() {
             for (int place = 0; place < lineLength; place++) {
                 routes[place] = 0;
             }
@@ -638,8 +651,6 @@ public final class CutLetters {
         private static final int PIECE_ROOM = 512;
         private static final int COST_UNIT = PIECE_ROOM * RANK_ROOM;
 
-        private final Book book;
-        private final Net net;
         /** The least cost of what stands before a spot. */
         private final int[] before = new int[SPOTS];
         /** How many ways from a spot to the line's end are kept. */
@@ -648,44 +659,38 @@ public final class CutLetters {
         /** The pieces of the cutting that was followed last. */
         final int[] followed = new int[MOST_LETTERS];
 
-        Ranking(Book book, Net net) {
-            this.book = book;
-            this.net = net;
-        }
-
-        void make() {
-            reachSpots();
-            rankEnds();
-            for (int place = book.lineLength - 1; place > 0; place--) {
+        void make(Net net) {
+            reachSpots(net);
+            rankEnds(net);
+            for (int place = net.lineLength - 1; place > 0; place--) {
                 for (int kind = 0; kind < KINDS; kind++) {
-                    rankSpot(place, kind);
+                    rankSpot(net, place, kind);
                 }
             }
-            rankSpot(0, EDGE);
+            rankSpot(net, 0, EDGE);
         }
 
-        private void rankEnds() {
+        private void rankEnds(Net net) {
             for (int kind = 0; kind < KINDS; kind++) {
-                int spot = book.lineLength * JOIN_SIDES + kind;
+                int spot = net.lineLength * JOIN_SIDES + kind;
                 counts[spot] = 1;
-                kept[spot * MOST_CUTTINGS] = book.joins[kind * JOIN_SIDES + EDGE] * COST_UNIT;
+                kept[spot * MOST_CUTTINGS] = net.joinAtEnd(kind) * COST_UNIT;
             }
         }
 
-        private void rankSpot(int place, int kind) {
+        private void rankSpot(Net net, int place, int kind) {
             int spot = place * JOIN_SIDES + kind;
             counts[spot] = 0;
             if (before[spot] >= NEVER) {
                 return;
             }
             for (int piece = net.firsts[place]; piece < net.firsts[place + 1]; piece++) {
-                int cost = book.joins[kind * JOIN_SIDES + net.kinds[piece]] + net.costs[piece];
-                offerWays(spot, piece, cost);
+                offerWays(net, spot, piece, net.joinBefore(kind, piece) + net.costs[piece]);
             }
         }
 
-        private void offerWays(int spot, int piece, int cost) {
-            int behind = spotBehind(piece);
+        private void offerWays(Net net, int spot, int piece, int cost) {
+            int behind = spotBehind(net, piece);
             int ways = counts[behind];
             boolean taken = true;
             for (int rank = 0; rank < ways && taken; rank++) {
@@ -712,36 +717,36 @@ public final class CutLetters {
             return true;
         }
 
-        private int spotBehind(int piece) {
+        private static int spotBehind(Net net, int piece) {
             return (net.places[piece] + net.lengths[piece]) * JOIN_SIDES + net.kinds[piece];
         }
 
         /** Pieces come by rising place, so all that end before a piece have been taken before it. */
-        private void reachSpots() {
+        private void reachSpots(Net net) {
             for (int spot = 0; spot < SPOTS; spot++) {
                 before[spot] = NEVER;
             }
             before[START] = 0;
             for (int piece = 0; piece < net.count; piece++) {
-                int behind = spotBehind(piece);
-                before[behind] = Math.min(before[behind], leastUpTo(piece));
+                int behind = spotBehind(net, piece);
+                before[behind] = Math.min(before[behind], leastUpTo(net, piece));
             }
         }
 
         /** The least cost from the first letter to the piece's end, the piece with it; NEVER, or above: none. */
-        private int leastUpTo(int piece) {
+        private int leastUpTo(Net net, int piece) {
             int least = NEVER;
             for (int kind = 0; kind < JOIN_SIDES; kind++) {
-                int joined = book.joins[kind * JOIN_SIDES + net.kinds[piece]];
-                least = Math.min(least, before[net.places[piece] * JOIN_SIDES + kind] + joined);
+                int spot = net.places[piece] * JOIN_SIDES + kind;
+                least = Math.min(least, before[spot] + net.joinBefore(kind, piece));
             }
             return least + net.costs[piece];
         }
 
         /** The least cost of a cutting that has the piece, or NONE. */
-        int leastWith(int piece) {
-            int ahead = leastUpTo(piece);
-            int behind = spotBehind(piece);
+        int leastWith(Net net, int piece) {
+            int ahead = leastUpTo(net, piece);
+            int behind = spotBehind(net, piece);
             if (ahead >= NEVER || counts[behind] == 0) {
                 return NONE;
             }
@@ -757,8 +762,8 @@ public final class CutLetters {
         }
 
         /** Lays the pieces of a cutting into its row: how many. */
-        int follow(int cutting) {
-            int end = book.lineLength * JOIN_SIDES;
+        int follow(Net net, int cutting) {
+            int end = net.lineLength * JOIN_SIDES;
             int count = 0;
             int spot = START;
             int rank = cutting;
@@ -767,18 +772,18 @@ public final class CutLetters {
                 int piece = way / RANK_ROOM % PIECE_ROOM;
                 followed[count] = piece;
                 count++;
-                spot = spotBehind(piece);
+                spot = spotBehind(net, piece);
                 rank = way % RANK_ROOM;
             }
             return count;
         }
 
         /** A cutting has no cut at a place just if one of its pieces has that place inside. */
-        int surePlaces(int above) {
+        int surePlaces(Net net, int above) {
             int most = costOf(0) + above;
-            int bits = (1 << book.lineLength) - 2;
+            int bits = (1 << net.lineLength) - 2;
             for (int piece = 0; piece < net.count; piece++) {
-                int least = leastWith(piece);
+                int least = leastWith(net, piece);
                 if (least != NONE && least <= most) {
                     int place = net.places[piece];
                     int end = place + net.lengths[piece];
@@ -797,7 +802,7 @@ public final class CutLetters {
 
         void write(int cutting, Ranking ranking, Net net, Book book) {
             count = 0;
-            int pieces = ranking.follow(cutting);
+            int pieces = ranking.follow(net, cutting);
             for (int i = 0; i < pieces; i++) {
                 if (i > 0) {
                     add('|');

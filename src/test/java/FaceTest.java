@@ -1,13 +1,17 @@
+import java.io.IOException;
 import java.lang.reflect.Array;
 import java.lang.reflect.Field;
 import java.lang.reflect.Method;
 import java.lang.reflect.Modifier;
+import java.nio.file.Files;
+import java.nio.file.Path;
 import java.util.Map;
 import java.util.TreeMap;
 
 /** The public face is the document's and no more; and an object takes little of the room that all share. */
 public final class FaceTest {
     private static final Due DUE = new Due("FaceTest");
+    private static final Path DOCUMENT = Path.of("../shared/DOC.md");
     private static final Map<String, Integer> CONSTANTS = Map.of(
             "NONE", -6, "UNKNOWN", -1, "OUTSIDE", -2, "STATE", -3, "FULL", -4, "NO", -5);
     /** The methods, with how many numbers they take. */
@@ -26,15 +30,34 @@ public final class FaceTest {
         METHODS.put("join", 3);
     }
 
-    public static void main(String[] args) throws IllegalAccessException {
+    public static void main(String[] args) throws IllegalAccessException, IOException {
         DUE.is("the class's modifiers", CutLetters.class.getModifiers(), Modifier.PUBLIC | Modifier.FINAL);
         DUE.is("constructors", CutLetters.class.getDeclaredConstructors().length, 1);
         DUE.is("public constructors", CutLetters.class.getConstructors().length, 1);
         constants();
         methods();
         insideClasses();
+        documentsWords();
         room();
         DUE.end();
+    }
+
+    /** Each line of the document's face stands in the class, with the same names, in the same order. */
+    private static void documentsWords() throws IOException {
+        if (!Files.exists(DOCUMENT)) {
+            System.out.println("FaceTest: the document is not there, so the face can not be held against it");
+            return;
+        }
+        String document = Files.readString(DOCUMENT);
+        int start = document.indexOf("```java\n") + 8;
+        String face = document.substring(start, document.indexOf("```", start));
+        StringBuilder mine = new StringBuilder();
+        for (String line : Files.readString(Path.of("src/main/java/CutLetters.java")).split("\n")) {
+            if (line.contains("public ")) {
+                mine.append(line.startsWith("    ") ? line.replace(" {", ";") : line).append('\n');
+            }
+        }
+        DUE.same("the face", mine.append("}\n").toString(), face);
     }
 
     private static void constants() throws IllegalAccessException {
