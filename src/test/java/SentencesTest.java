@@ -11,8 +11,9 @@ import java.util.regex.Pattern;
 import java.util.stream.Stream;
 
 /**
- * Each sentence that a test says it holds stands in the document under that heading, and each sentence of the
- * Terms and the promises is held by a test. Run from the project's folder.
+ * Each sentence that a test says it holds stands in the document under that heading, and each sentence of "What
+ * it is", the Terms and the promises is held by a test (FaceTest holds the public face, and what is not promised
+ * needs none). Run from the project's folder.
  */
 public final class SentencesTest {
     private static final Due DUE = new Due("SentencesTest");
@@ -38,7 +39,7 @@ public final class SentencesTest {
             }
         }
         for (String heading : document.keySet()) {
-            if (heading.equals("Terms") || heading.startsWith("Promise ")) {
+            if (heading.equals("What it is") || heading.equals("Terms") || heading.startsWith("Promise ")) {
                 DUE.same("held by no test, " + heading,
                         rest(document.get(heading), held.getOrDefault(heading, List.of())), "");
             }
